@@ -31,10 +31,8 @@ public final class DotSpreader {
 
     private final Plan now;
     private final Plan spare;
-    private final byte[] tape;
-    private int tapeLength;
+    private final Tape tape;
     private int faultAt;
-    private final TextReader reader;
     private final Script script;
     private final Parts parts;
     private final Path path;
@@ -42,10 +40,8 @@ public final class DotSpreader {
     public DotSpreader() {
         now = new Plan();
         spare = new Plan();
-        tape = new byte[MOST_TAPE];
-        tapeLength = 0;
+        tape = new Tape();
         faultAt = NONE;
-        reader = new TextReader(tape, spare.chart);
         script = new Script();
         parts = new Parts();
         path = new Path();
@@ -54,34 +50,31 @@ public final class DotSpreader {
     // ---- the text ----
 
     public int feed(int a, int b, int c, int d, int e) {
-        if (tapeLength + FEED_BYTES > MOST_TAPE) {
+        if (tape.length + FEED_BYTES > MOST_TAPE) {
             return NONE;
         }
-        putNumber(a);
-        putNumber(b);
-        putNumber(c);
-        putNumber(d);
-        putNumber(e);
-        return tapeLength;
+        tape.takeBytes(a);
+        tape.takeBytes(b);
+        tape.takeBytes(c);
+        tape.takeBytes(d);
+        tape.takeBytes(e);
+        return tape.length;
     }
 
     public boolean end(int n) {
-        if (n < 0 || n > tapeLength) {
+        if (n < 0 || n > tape.length) {
             return false;
         }
-        tapeLength = n;
+        tape.length = n;
         return true;
     }
 
     public int read() throws IllegalArgumentException {
-        int length = tapeLength;
-        tapeLength = 0;
-        // The text goes into the spare map first, so that a wrong one leaves the map as it was.
-        faultAt = reader.faultOf(length);
+        faultAt = tape.useUp();
         if (faultAt != NONE) {
             throw new IllegalArgumentException("the text is wrong");
         }
-        now.chart.copyFrom(spare.chart);
+        now.chart.copyFrom(tape.draft);
         now.mapChanged();
         path.forget();
         return now.chart.zones;
@@ -515,15 +508,6 @@ public final class DotSpreader {
 
     // ---- what changes, and what is brought up to date ----
 
-    private void putNumber(int number) {
-        for (int shift = 24; shift >= 0; shift -= 8) {
-            if (tapeLength < MOST_TAPE) {
-                tape[tapeLength] = (byte) (number >> shift);
-                tapeLength++;
-            }
-        }
-    }
-
     private void numbersChanged() {
         now.numbersChanged();
         path.forget();
@@ -590,12 +574,14 @@ public final class DotSpreader {
             zones = other.zones;
             groups = other.groups;
             System.arraycopy(other.owner, 0, owner, 0, MOST_CELLS);
-            System.arraycopy(other.sea, 0, sea, 0, MOST_CELLS);
             System.arraycopy(other.columnOf, 0, columnOf, 0, MOST_CELLS);
             System.arraycopy(other.rowOf, 0, rowOf, 0, MOST_CELLS);
             System.arraycopy(other.living, 0, living, 0, MOST_ZONES * MOST_GROUPS);
             System.arraycopy(other.letters, 0, letters, 0, MOST_ZONES * MOST_LETTERS);
             System.arraycopy(other.nameLengths, 0, nameLengths, 0, MOST_ZONES);
+            for (int cell = 0; cell < MOST_CELLS; cell++) {
+                sea[cell] = other.sea[cell];
+            }
         }
 
         int far(int one, int two) {
@@ -780,11 +766,11 @@ public final class DotSpreader {
         }
     }
 
-    /** Reads a text into a chart, up to its first fault. */
-    private static final class TextReader {
-        private final byte[] text;
-        private final Chart chart;
-        private int length = 0;
+    /** The text that has come, read into a draft, so that a wrong one leaves the map as it was. */
+    private static final class Tape {
+        int length = 0;
+        final Chart draft = new Chart();
+        private final byte[] text = new byte[MOST_TAPE];
         private int at = 0;
         private int wordStart = 0;
         private int wordLength = 0;
@@ -793,23 +779,28 @@ public final class DotSpreader {
         private int failed = NONE;
         private boolean groupsTold = false;
 
-        TextReader(byte[] text, Chart chart) {
-            this.text = text;
-            this.chart = chart;
+        void takeBytes(int four) {
+            for (int shift = 24; shift >= 0; shift -= 8) {
+                if (length < MOST_TAPE) {
+                    text[length] = (byte) (four >> shift);
+                    length++;
+                }
+            }
         }
 
-        int faultOf(int newLength) {
-            length = newLength;
+        /** THE FAULT, or NONE. */
+        int useUp() {
             at = 0;
             failed = NONE;
             groupsTold = false;
-            chart.clear();
+            draft.clear();
             boolean going = readSize();
             skipBlanks();
             for (int lines = 0; going && at < length && lines < MOST_TAPE; lines++) {
                 going = readLine();
                 skipBlanks();
             }
+            length = 0;
             return failed;
         }
 
@@ -821,7 +812,7 @@ public final class DotSpreader {
             if (!readNumber(2, MOST_HEIGHT)) {
                 return false;
             }
-            chart.shape(width, number);
+            draft.shape(width, number);
             return readSign(';');
         }
 
@@ -845,19 +836,19 @@ public final class DotSpreader {
         }
 
         private boolean readGroups() {
-            if (groupsTold || chart.zones > 0) {
+            if (groupsTold || draft.zones > 0) {
                 return failAt(wordStart);
             }
             if (!readNumber(1, MOST_GROUPS)) {
                 return false;
             }
             groupsTold = true;
-            chart.groups = number;
+            draft.groups = number;
             return readSign(';');
         }
 
         private boolean readZone() {
-            if (chart.zones >= MOST_ZONES) {
+            if (draft.zones >= MOST_ZONES) {
                 return failAt(wordStart);
             }
             if (!readWord()) {
@@ -866,25 +857,25 @@ public final class DotSpreader {
             if (wordLength > MOST_LETTERS || isReserved() || zoneNamed() != NONE) {
                 return failAt(wordStart);
             }
-            int zone = chart.zones;
-            System.arraycopy(text, wordStart, chart.letters, zone * MOST_LETTERS, wordLength);
-            chart.nameLengths[zone] = wordLength;
+            int zone = draft.zones;
+            System.arraycopy(text, wordStart, draft.letters, zone * MOST_LETTERS, wordLength);
+            draft.nameLengths[zone] = wordLength;
             if (!readKeyword("people") || !readPeople(zone) || !readSign(';')) {
                 return false;
             }
-            chart.zones++;
+            draft.zones++;
             return true;
         }
 
         private boolean readPeople(int zone) {
-            for (int group = 0; group < chart.groups; group++) {
+            for (int group = 0; group < draft.groups; group++) {
                 if (group > 0 && !readSign(',')) {
                     return false;
                 }
                 if (!readNumber(0, MOST_PEOPLE)) {
                     return false;
                 }
-                chart.settle(zone, group, number);
+                draft.settle(zone, group, number);
             }
             return true;
         }
@@ -899,7 +890,7 @@ public final class DotSpreader {
 
         // The sea has runs as zones have them: it stands as zone NONE here.
         private boolean readRuns(int zone) {
-            if (!readNumber(0, chart.height - 1)) {
+            if (!readNumber(0, draft.height - 1)) {
                 return false;
             }
             int row = number;
@@ -916,17 +907,17 @@ public final class DotSpreader {
         }
 
         private boolean readRun(int zone, int row) {
-            if (!readNumber(0, chart.width - 1)) {
+            if (!readNumber(0, draft.width - 1)) {
                 return false;
             }
             int first = number;
             int start = numberStart;
-            int rowStart = row * chart.width;
+            int rowStart = row * draft.width;
             // Its first cell is wrong whatever comes behind it; the others only when the run's end is known.
             if (isOfAnother(rowStart + first, zone)) {
                 return failAt(start);
             }
-            if (!readSign('-') || !readNumber(first, chart.width - 1)) {
+            if (!readSign('-') || !readNumber(first, draft.width - 1)) {
                 return false;
             }
             int last = number;
@@ -940,15 +931,15 @@ public final class DotSpreader {
         }
 
         private boolean isOfAnother(int cell, int zone) {
-            return zone != NONE && chart.owner[cell] != NONE && chart.owner[cell] != zone;
+            return zone != NONE && draft.owner[cell] != NONE && draft.owner[cell] != zone;
         }
 
         private void mark(int zone, int first, int last) {
             for (int cell = first; cell <= last; cell++) {
                 if (zone == NONE) {
-                    chart.sea[cell] = true;
+                    draft.sea[cell] = true;
                 } else {
-                    chart.owner[cell] = zone;
+                    draft.owner[cell] = zone;
                 }
             }
         }
@@ -959,7 +950,7 @@ public final class DotSpreader {
         }
 
         private int zoneNamed() {
-            for (int zone = 0; zone < chart.zones; zone++) {
+            for (int zone = 0; zone < draft.zones; zone++) {
                 if (wordIsNameOf(zone)) {
                     return zone;
                 }
@@ -968,11 +959,11 @@ public final class DotSpreader {
         }
 
         private boolean wordIsNameOf(int zone) {
-            if (chart.nameLengths[zone] != wordLength) {
+            if (draft.nameLengths[zone] != wordLength) {
                 return false;
             }
             for (int k = 0; k < wordLength; k++) {
-                if (chart.letters[zone * MOST_LETTERS + k] != text[wordStart + k]) {
+                if (draft.letters[zone * MOST_LETTERS + k] != text[wordStart + k]) {
                     return false;
                 }
             }
@@ -1211,7 +1202,9 @@ public final class DotSpreader {
 
         void copyFrom(Ranks other) {
             System.arraycopy(other.rankOf, 0, rankOf, 0, MOST_CELLS);
-            System.arraycopy(other.ranked, 0, ranked, 0, MOST_ZONES);
+            for (int zone = 0; zone < MOST_ZONES; zone++) {
+                ranked[zone] = other.ranked[zone];
+            }
             sortedToo = false;
         }
 
@@ -1550,7 +1543,8 @@ public final class DotSpreader {
 
         Crowd crowded(int level) {
             if (!crowd.isOf(level)) {
-                crowd.gather(chart, tallied(), ranked(), level);
+                ranks.renew(chart, tallied().land);
+                crowd.gather(chart, tally, ranks, level);
             }
             return crowd;
         }

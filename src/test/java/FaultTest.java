@@ -6,6 +6,7 @@ public final class FaultTest {
     public static void main(String[] args) {
         tape();
         reading();
+        cutTexts();
         rightTexts();
         sizes();
         groups();
@@ -74,6 +75,31 @@ public final class FaultTest {
         Check.is("end(9)", x.end(9), true);
         Check.is("read() of it", x.read(), 0);
         Check.is("its size", x.count(0) * 10 + x.count(1), 34);
+    }
+
+    /** What end() cut off must not be looked at, nor what is behind the tape's last byte. */
+    private static void cutTexts() {
+        String text = "size 2 2;zone ab people 17;row ab 1:0-0,1-1;";
+        for (int length = 0; length <= text.length(); length++) {
+            DotSpreader cut = new DotSpreader();
+            Check.feed(cut, text);
+            cut.end(length);
+            int fault = DotSpreader.NONE;
+            try {
+                cut.read();
+            } catch (IllegalArgumentException e) {
+                fault = cut.fault();
+            }
+            Check.is("'" + text + "' cut at " + length, fault, Check.faultOf(text.substring(0, length)));
+        }
+        String blanks = " ".repeat(400 - text.length());
+        fault(text + blanks);
+        fault(blanks + text.substring(0, text.length() - 1) + " ^");
+        fault(blanks + " " + text.substring(0, text.length() - 1) + "^");
+        fault("size 2 2;zone ab ^" + "a".repeat(383));
+        fault("size 2 2;zone ab people ^" + "1".repeat(376));
+        fault(" ".repeat(396) + "size^");
+        fault(" ".repeat(400) + "^");
     }
 
     private static void rightTexts() {

@@ -521,6 +521,11 @@ public final class PromiseTest {
         x.people(0, 0, 99999);
         x.people(2, 0, 99999);
         Check.is("99999 at most", x.joined(0, 2, 0), 9999 + 1);
+        DotSpreader y = Check.map("size 2 2;zone a people 300;zone b people 100;row b 0:0-0;");
+        Check.is("the land of cell 0 alone", y.joined(0, 1, 0), 4);
+        DotSpreader z = Check.map("size 2 2;zone a people 300;zone b people 100;row b 1:1-1;");
+        Check.is("the land of the last cell alone", z.joined(0, 1, 0), 4);
+        Check.is("the other way round", z.joined(1, 0, 0), 4);
         refusesOutside("joined, zone", n -> x.joined(n, 0, 0));
         refusesOutside("joined, other", n -> x.joined(0, n, 0));
         refusesOutside("joined, level", n -> x.joined(0, 1, n));
