@@ -17,6 +17,8 @@ public final class DotSpreader {
     private static final int LEAST_FACTOR = 2;
     private static final int MOST_FACTOR = 10;
     private static final int MOST_FAR = 999;
+    // 23 columns and 15 rows apart are FAR 754.
+    private static final int BEYOND_ALL_FAR = 1000;
     private static final int MOST_TAPE = 400;
     private static final int FEED_BYTES = 20;
     private static final int LEVELS = 5;
@@ -1240,7 +1242,7 @@ public final class DotSpreader {
                 if (chart.isLandOf(cell, zone)) {
                     waiting[waitingCount] = cell;
                     waitingCount++;
-                    gaps[cell] = Integer.MAX_VALUE;
+                    gaps[cell] = BEYOND_ALL_FAR;
                     balance.add(chart, cell, 1);
                 }
             }
