@@ -829,7 +829,7 @@ public final class DotSpreader {
                 return readZone();
             }
             if (wordIs("row")) {
-                return readRow();
+                return readToldName() && readRuns(zoneNamed());
             }
             if (wordIs("sea")) {
                 return readRuns(NONE);
@@ -882,12 +882,11 @@ public final class DotSpreader {
             return true;
         }
 
-        private boolean readRow() {
+        private boolean readToldName() {
             if (!readWord()) {
                 return false;
             }
-            int zone = zoneNamed();
-            return zone == NONE ? failAt(wordStart) : readRuns(zone);
+            return zoneNamed() != NONE || failAt(wordStart);
         }
 
         // The sea has runs as zones have them: it stands as zone NONE here.
@@ -899,7 +898,7 @@ public final class DotSpreader {
             if (!readSign(':') || !readRun(zone, row)) {
                 return false;
             }
-            while (nextIs(',')) {
+            for (int runs = 1; runs < MOST_TAPE && nextIs(','); runs++) {
                 at++;
                 if (!readRun(zone, row)) {
                     return false;

@@ -1,10 +1,15 @@
 import java.nio.charset.StandardCharsets;
 import java.util.Arrays;
+import java.util.NoSuchElementException;
 
 /** What the tests share: answers compared, exceptions awaited, texts fed. */
 final class Check {
     interface Call {
         long run();
+    }
+
+    interface Indexed {
+        long at(int n);
     }
 
     private static int wrong = 0;
@@ -31,6 +36,13 @@ final class Check {
         }
     }
 
+    /** The answers for 0, 1, 2 and on. */
+    static void answers(String what, Indexed call, int... due) {
+        for (int k = 0; k < due.length; k++) {
+            is(what + " " + k, call.at(k), due[k]);
+        }
+    }
+
     static void fail(String what) {
         wrong++;
         System.out.println(what);
@@ -47,6 +59,18 @@ final class Check {
                 fail(what + " threw " + e + ", due is " + due.getName());
             }
         }
+    }
+
+    static void refusesIndex(String what, Call call) {
+        refuses(what, IndexOutOfBoundsException.class, call);
+    }
+
+    static void refusesNumber(String what, Call call) {
+        refuses(what, IllegalArgumentException.class, call);
+    }
+
+    static void refusesMissing(String what, Call call) {
+        refuses(what, NoSuchElementException.class, call);
     }
 
     static void feed(DotSpreader x, String text) {
@@ -81,6 +105,13 @@ final class Check {
         }
         is("read() of '" + text + "' throws", threw, x.fault() != DotSpreader.NONE);
         return x.fault();
+    }
+
+    /** The '^' in the text stands ahead of the byte that is THE FAULT (and is not fed); none: the text is right. */
+    static void fault(String what, String marked) {
+        int due = marked.indexOf('^');
+        String text = due < 0 ? marked : marked.substring(0, due) + marked.substring(due + 1);
+        is(what + ": fault() of '" + text + "'", faultOf(text), due);
     }
 
     static String written(DotSpreader x) {

@@ -18,11 +18,8 @@ public final class FaultTest {
         Check.done("FaultTest");
     }
 
-    /** The '^' in the text stands ahead of the byte that is THE FAULT (and is not fed). */
     private static void fault(String marked) {
-        int due = marked.indexOf('^');
-        String text = due < 0 ? marked : marked.substring(0, due) + marked.substring(due + 1);
-        Check.is("fault() of '" + text + "'", Check.faultOf(text), due);
+        Check.fault("THE FAULT", marked);
     }
 
     private static void tape() {

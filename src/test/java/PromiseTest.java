@@ -59,17 +59,13 @@ public final class PromiseTest {
         return Check.map("size 5 5;zone a people 9999;" + rows);
     }
 
-    private interface Indexed {
-        long at(int n);
-    }
-
-    private static void refusesOutside(String what, Indexed call) {
+    private static void refusesOutside(String what, Check.Indexed call) {
         for (int n : OUTSIDE) {
             Check.refuses(what + " of " + n, INDEX, () -> call.at(n));
         }
     }
 
-    private static void refusesOutsideButNone(String what, Indexed call) {
+    private static void refusesOutsideButNone(String what, Check.Indexed call) {
         for (int n : OUTSIDE) {
             if (n != NONE) {
                 Check.refuses(what + " of " + n, INDEX, () -> call.at(n));
@@ -77,15 +73,9 @@ public final class PromiseTest {
         }
     }
 
-    private static void answers(String what, Indexed call, int... due) {
-        for (int k = 0; k < due.length; k++) {
-            Check.is(what + " " + k, call.at(k), due[k]);
-        }
-    }
-
     private static void newObject() {
         DotSpreader x = new DotSpreader();
-        answers("count at first", x::count, 0, 0, 0, 1, 0, 0, 0, 100, 5, 0, 0, NONE);
+        Check.answers("count at first", x::count, 0, 0, 0, 1, 0, 0, 0, 100, 5, 0, 0, NONE);
         Check.refuses("cell", INDEX, () -> x.cell(0, 0));
         Check.refuses("cell with a wrong what", INDEX, () -> x.cell(0, 7));
         Check.refuses("zone", INDEX, () -> x.zone(0, 0));
@@ -112,22 +102,22 @@ public final class PromiseTest {
 
     private static void cellsAndZones() {
         DotSpreader x = Check.map(COAST);
-        answers("zone of cell", c -> x.cell(c, 0), NONE, 0, 0, NONE, 1, 0, 0, 0, NONE, 1, NONE, NONE, 0, 1, 1);
-        answers("sea of cell", c -> x.cell(c, 1), 0, 0, 0, 1, 0, 0, 0, 1, 1, 0, 0, 0, 0, 0, 0);
+        Check.answers("zone of cell", c -> x.cell(c, 0), NONE, 0, 0, NONE, 1, 0, 0, 0, NONE, 1, NONE, NONE, 0, 1, 1);
+        Check.answers("sea of cell", c -> x.cell(c, 1), 0, 0, 0, 1, 0, 0, 0, 1, 1, 0, 0, 0, 0, 0, 0);
         refusesOutside("cell", c -> x.cell(c, 0));
         Check.refuses("cell 15", INDEX, () -> x.cell(15, 0));
         Check.refuses("cell what 2", MISSING, () -> x.cell(14, 2));
         Check.refuses("cell what -1", MISSING, () -> x.cell(14, -1));
         Check.refuses("no cell ahead of another what", INDEX, () -> x.cell(15, 2));
-        answers("zone a", w -> x.zone(0, w), 6, 5, 2, 4, 1, 3);
-        answers("zone b", w -> x.zone(1, w), 4, 4, 1, 3, 1, 3);
+        Check.answers("zone a", w -> x.zone(0, w), 6, 5, 2, 4, 1, 3);
+        Check.answers("zone b", w -> x.zone(1, w), 4, 4, 1, 3, 1, 3);
         refusesOutside("zone", z -> x.zone(z, 0));
         Check.refuses("zone 2", INDEX, () -> x.zone(2, 0));
         Check.refuses("zone what 6", MISSING, () -> x.zone(1, 6));
         Check.refuses("zone what -1", MISSING, () -> x.zone(1, -1));
         Check.refuses("no zone ahead of another what", INDEX, () -> x.zone(2, 6));
-        answers("name a", k -> x.name(0, k), 'a', NONE, NONE);
-        answers("name b", k -> x.name(1, k), 'b', 'c', 'd', 'e', 'f', 'g', NONE);
+        Check.answers("name a", k -> x.name(0, k), 'a', NONE, NONE);
+        Check.answers("name b", k -> x.name(1, k), 'b', 'c', 'd', 'e', 'f', 'g', NONE);
         Check.is("letter -1", x.name(1, -1), NONE);
         Check.is("letter far behind", x.name(0, Integer.MAX_VALUE), NONE);
         refusesOutside("name", z -> x.name(z, 0));
@@ -177,8 +167,8 @@ public final class PromiseTest {
 
     private static void orders() {
         DotSpreader x = Check.map("size 5 2;zone a people 1000;zone b people 1;row a 0:0-4;");
-        answers("order of a line", k -> x.order(0, k), 2, 0, 4, 1, 3, NONE);
-        answers("stands", x::stands, 1, 3, 0, 4, 2, NONE, NONE);
+        Check.answers("order of a line", k -> x.order(0, k), 2, 0, 4, 1, 3, NONE);
+        Check.answers("stands", x::stands, 1, 3, 0, 4, 2, NONE, NONE);
         Check.is("order -1", x.order(0, -1), NONE);
         Check.is("order of no land", x.order(1, 0), NONE);
         Check.is("order far behind", x.order(0, Integer.MAX_VALUE), NONE);
@@ -186,13 +176,13 @@ public final class PromiseTest {
         refusesOutside("stands", x::stands);
         Check.refuses("stands 10", INDEX, () -> x.stands(10));
         x.flood(2, true);
-        answers("order without its middle", k -> x.order(0, k), 1, 4, 0, 3, NONE);
+        Check.answers("order without its middle", k -> x.order(0, k), 1, 4, 0, 3, NONE);
         Check.is("sea stands nowhere", x.stands(2), NONE);
         x.flood(2, false);
-        answers("order as it was", k -> x.order(0, k), 2, 0, 4, 1, 3, NONE);
+        Check.answers("order as it was", k -> x.order(0, k), 2, 0, 4, 1, 3, NONE);
         x.move(0, 1, 0, 3, 4);
-        answers("order of what is left", k -> x.order(0, k), 1, 0, 2, NONE);
-        answers("order of what came", k -> x.order(1, k), 3, 4, NONE);
+        Check.answers("order of what is left", k -> x.order(0, k), 1, 0, 2, NONE);
+        Check.answers("order of what came", k -> x.order(1, k), 3, 4, NONE);
     }
 
     private static void scales() {
@@ -201,19 +191,19 @@ public final class PromiseTest {
         int[][] second = {{0, 0, 11}, {0, 0, 5}, {0, 0, 2}, {0, 0, 1}, {0, 0, 0}};
         for (int level = 0; level < 5; level++) {
             int l = level;
-            answers("dots of group 0 at " + l, z -> x.dots(z, 0, l), first[l]);
-            answers("dots of group 1 at " + l, z -> x.dots(z, 1, l), second[l]);
+            Check.answers("dots of group 0 at " + l, z -> x.dots(z, 0, l), first[l]);
+            Check.answers("dots of group 1 at " + l, z -> x.dots(z, 1, l), second[l]);
         }
-        answers("carried of group 0 at 0", z -> x.carried(z, 0, 0), 0, 5, 5);
-        answers("carried of group 1 at 0", z -> x.carried(z, 1, 0), 0, 7, 106);
-        answers("carried of group 0 at 1", z -> x.carried(z, 0, 1), 0, 1, 1);
-        answers("carried of group 0 at 3", z -> x.carried(z, 0, 3), 0, 1, 1);
-        answers("left of group 0", l -> x.left(0, l), 1, 0, 1, 0, 1);
-        answers("left of group 1", l -> x.left(1, l), 1, 1, 1, 0, 1);
-        answers("all", l -> x.all(NONE, l), 21, 10, 4, 2, 0);
-        answers("all of group 1", l -> x.all(1, l), 11, 5, 2, 1, 0);
-        answers("off of group 0", z -> x.off(z, 0), -5, 0, 4);
-        answers("off of group 1", z -> x.off(z, 1), -7, -99, 105);
+        Check.answers("carried of group 0 at 0", z -> x.carried(z, 0, 0), 0, 5, 5);
+        Check.answers("carried of group 1 at 0", z -> x.carried(z, 1, 0), 0, 7, 106);
+        Check.answers("carried of group 0 at 1", z -> x.carried(z, 0, 1), 0, 1, 1);
+        Check.answers("carried of group 0 at 3", z -> x.carried(z, 0, 3), 0, 1, 1);
+        Check.answers("left of group 0", l -> x.left(0, l), 1, 0, 1, 0, 1);
+        Check.answers("left of group 1", l -> x.left(1, l), 1, 1, 1, 0, 1);
+        Check.answers("all", l -> x.all(NONE, l), 21, 10, 4, 2, 0);
+        Check.answers("all of group 1", l -> x.all(1, l), 11, 5, 2, 1, 0);
+        Check.answers("off of group 0", z -> x.off(z, 0), -5, 0, 4);
+        Check.answers("off of group 1", z -> x.off(z, 1), -7, -99, 105);
         refusesOutside("dots, zone", n -> x.dots(n, 0, 0));
         refusesOutside("dots, group", n -> x.dots(0, n, 0));
         refusesOutside("dots, level", n -> x.dots(0, 0, n));
@@ -231,9 +221,9 @@ public final class PromiseTest {
 
     private static void places() {
         DotSpreader x = scaled();
-        answers("dots of a", k -> x.dot(0, 0, 0, k), 1, 2, 0, 1, 2);
-        answers("dots of c, group 1", k -> x.dot(2, 1, 0, k), 3, 4, 5, 3, 4, 5, 3, 4, 5, 3, 4);
-        answers("dots of c, group 1, level 1", k -> x.dot(2, 1, 1, k), 3, 4, 5, 3, 4);
+        Check.answers("dots of a", k -> x.dot(0, 0, 0, k), 1, 2, 0, 1, 2);
+        Check.answers("dots of c, group 1", k -> x.dot(2, 1, 0, k), 3, 4, 5, 3, 4, 5, 3, 4, 5, 3, 4);
+        Check.answers("dots of c, group 1, level 1", k -> x.dot(2, 1, 1, k), 3, 4, 5, 3, 4);
         Check.refuses("dot 11", MISSING, () -> x.dot(2, 1, 0, 11));
         Check.refuses("dot -1", MISSING, () -> x.dot(2, 1, 0, -1));
         Check.refuses("dot of no land", MISSING, () -> x.dot(1, 1, 0, 0));
@@ -244,11 +234,11 @@ public final class PromiseTest {
         refusesOutside("dot, level", n -> x.dot(0, 0, n, 0));
         DotSpreader y = Check.map("size 4 2;groups 2;zone a people 9,5;row a 0:0-3;");
         y.unit(1);
-        answers("order", k -> y.order(0, k), 1, 3, 0, 2);
-        answers("group 0 has every other cell", k -> y.dot(0, 0, 0, k), 1, 0, 1, 0, 1, 0, 1, 0, 1);
-        answers("group 1 has the others", k -> y.dot(0, 1, 0, k), 3, 2, 3, 2, 3);
-        answers("crowd of group 0", c -> y.crowd(c, 0, 0), 4, 5, 0, 0);
-        answers("crowd of group 1", c -> y.crowd(c, 1, 0), 0, 0, 2, 3);
+        Check.answers("order", k -> y.order(0, k), 1, 3, 0, 2);
+        Check.answers("group 0 has every other cell", k -> y.dot(0, 0, 0, k), 1, 0, 1, 0, 1, 0, 1, 0, 1);
+        Check.answers("group 1 has the others", k -> y.dot(0, 1, 0, k), 3, 2, 3, 2, 3);
+        Check.answers("crowd of group 0", c -> y.crowd(c, 0, 0), 4, 5, 0, 0);
+        Check.answers("crowd of group 1", c -> y.crowd(c, 1, 0), 0, 0, 2, 3);
         DotSpreader z = Check.map("size 2 2;zone a people 99999;zone b people 99999;row b 1:1-1;");
         z.unit(1);
         Check.is("very many dots", z.crowd(3, NONE, 0), 199998);
@@ -257,18 +247,18 @@ public final class PromiseTest {
 
     private static void crowdsAndGaps() {
         DotSpreader x = scaled();
-        answers("crowd", c -> x.crowd(c, NONE, 0), 1, 2, 2, 5, 6, 5);
-        answers("crowd of group 0", c -> x.crowd(c, 0, 0), 1, 2, 2, 1, 2, 2);
-        answers("crowd of group 1", c -> x.crowd(c, 1, 0), 0, 0, 0, 4, 4, 3);
-        answers("crowd at level 2", c -> x.crowd(c, NONE, 2), 0, 1, 0, 1, 2, 0);
-        answers("crowd at level 4", c -> x.crowd(c, NONE, 4), 0, 0, 0, 0, 0, 0);
+        Check.answers("crowd", c -> x.crowd(c, NONE, 0), 1, 2, 2, 5, 6, 5);
+        Check.answers("crowd of group 0", c -> x.crowd(c, 0, 0), 1, 2, 2, 1, 2, 2);
+        Check.answers("crowd of group 1", c -> x.crowd(c, 1, 0), 0, 0, 0, 4, 4, 3);
+        Check.answers("crowd at level 2", c -> x.crowd(c, NONE, 2), 0, 1, 0, 1, 2, 0);
+        Check.answers("crowd at level 4", c -> x.crowd(c, NONE, 4), 0, 0, 0, 0, 0, 0);
         refusesOutside("crowd, cell", n -> x.crowd(n, 0, 0));
         refusesOutsideButNone("crowd, group", n -> x.crowd(0, n, 0));
         refusesOutside("crowd, level", n -> x.crowd(0, 0, n));
-        answers("apart", x::apart, 1, 1, 1, 1, NONE);
+        Check.answers("apart", x::apart, 1, 1, 1, 1, NONE);
         refusesOutside("apart", x::apart);
         DotSpreader y = Check.map("size 5 2;zone a people 300;row a 0:0-4;");
-        answers("crowd of three", c -> y.crowd(c, NONE, 0), 1, 0, 1, 0, 1, 0);
+        Check.answers("crowd of three", c -> y.crowd(c, NONE, 0), 1, 0, 1, 0, 1, 0);
         Check.is("apart of three", y.apart(0), 4);
         y.people(0, 0, 100);
         Check.is("apart of one", y.apart(0), NONE);
@@ -326,15 +316,15 @@ public final class PromiseTest {
         Check.is("none of a there", x.tries(0, 1, 0, 2, 3, 0), 0);
         Check.is("the zone stays", x.cell(1, 0), 0);
         Check.is("the people stay", x.lives(0, 0), 250);
-        answers("the order stays", k -> x.order(0, k), 0, 5, 1, 4);
-        answers("the crowd stays", c -> x.crowd(c, NONE, 0), 1, 0, 1, 0, 0, 1, 0, 0);
+        Check.answers("the order stays", k -> x.order(0, k), 0, 5, 1, 4);
+        Check.answers("the crowd stays", c -> x.crowd(c, NONE, 0), 1, 0, 1, 0, 0, 1, 0, 0);
         refusesOutside("tries, level", n -> x.tries(0, 1, 0, 1, 1, n));
         Check.refuses("no level ahead of one zone", INDEX, () -> x.tries(0, 0, 0, 1, 1, 5));
         // Group 0 stays on cell 0 and group 1 comes to it: dots that are of another group are new.
         DotSpreader y = Check.map("size 2 2;groups 2;zone a people 1,1;zone b people 0,0;row a 0:0-1;");
         y.unit(1);
-        answers("group 0", c -> y.crowd(c, 0, 0), 1, 0, 0, 0);
-        answers("group 1", c -> y.crowd(c, 1, 0), 0, 1, 0, 0);
+        Check.answers("group 0", c -> y.crowd(c, 0, 0), 1, 0, 0, 0);
+        Check.answers("group 1", c -> y.crowd(c, 1, 0), 0, 1, 0, 0);
         Check.is("one is new", y.tries(0, 1, 0, 1, 1, 0), 1);
     }
 
@@ -342,8 +332,8 @@ public final class PromiseTest {
         DotSpreader x = Check.map("size 9 2;zone a people 1;zone b people 1;row a 0:0-1,3-3,5-8;row b 0:2-2;sea 0:6-6;");
         Check.is("runs", x.run(0, 0, NONE, false), 4);
         Check.is("runs, last", x.run(0, 0, NONE, true), 4);
-        answers("first", k -> x.run(0, 0, k, false), 0, 3, 5, 7, NONE);
-        answers("last", k -> x.run(0, 0, k, true), 1, 3, 5, 8, NONE);
+        Check.answers("first", k -> x.run(0, 0, k, false), 0, 3, 5, 7, NONE);
+        Check.answers("last", k -> x.run(0, 0, k, true), 1, 3, 5, 8, NONE);
         Check.is("run -2", x.run(0, 0, -2, false), NONE);
         Check.is("run far behind", x.run(0, 0, Integer.MAX_VALUE, false), NONE);
         Check.is("runs of an empty row", x.run(0, 1, NONE, false), 0);
@@ -357,29 +347,29 @@ public final class PromiseTest {
 
     private static void parts() {
         DotSpreader x = Check.map(COAST);
-        answers("part", x::part, NONE, 0, 0, NONE, 0, 0, 0, NONE, NONE, 0, NONE, NONE, 1, 0, 0);
+        Check.answers("part", x::part, NONE, 0, 0, NONE, 0, 0, 0, NONE, NONE, 0, NONE, NONE, 1, 0, 0);
         x.flood(6, true);
-        answers("part then", x::part, NONE, 0, 0, NONE, 0, 1, NONE, NONE, NONE, 0, NONE, NONE, 2, 0, 0);
+        Check.answers("part then", x::part, NONE, 0, 0, NONE, 0, 1, NONE, NONE, NONE, 0, NONE, NONE, 2, 0, 0);
         Check.is("parts", x.zone(0, 2), 3);
         refusesOutside("part", x::part);
         Check.refuses("part 15", INDEX, () -> x.part(15));
         DotSpreader y = Check.map("size 3 3;zone a people 1;row a 0:0-0,2-2;row a 1:1-1;row a 2:0-2;");
-        answers("corners do not hang together", y::part, 0, NONE, 1, NONE, 2, NONE, 2, 2, 2);
+        Check.answers("corners do not hang together", y::part, 0, NONE, 1, NONE, 2, NONE, 2, 2, 2);
     }
 
     private static void measures() {
         DotSpreader x = Check.map("size 5 2;zone a people 400;row a 0:0-4;sea 1:4-4;");
-        answers("crowd", c -> x.measure(c, 0, 0, 0), 1, 1, 1, 0, 1, 0, 0, 0, 0, 0);
-        answers("within 0", c -> x.measure(c, 1, 0, 0), 1, 1, 1, 0, 1, 0, 0, 0, 0, 0);
-        answers("within 1", c -> x.measure(c, 1, 0, 1), 2, 3, 2, 2, 1, 1, 1, 1, 0, 1);
-        answers("within 2", c -> x.measure(c, 1, 0, 2), 2, 3, 2, 2, 1, 2, 3, 2, 2, 1);
-        answers("within 999", c -> x.measure(c, 1, 0, 999), 4, 4, 4, 4, 4, 4, 4, 4, 4, 4);
-        answers("to dots", c -> x.measure(c, 2, 0, 0), 0, 0, 0, 1, 0, 1, 1, 1, 2, 1);
-        answers("to sea", c -> x.measure(c, 3, 0, 0), 17, 10, 5, 2, 1, 16, 9, 4, 1, 0);
-        answers("in line", c -> x.measure(c, 4, 0, 0), 4, 4, 4, 4, 4, 1, 1, 1, 0, 1);
-        answers("to dots, without", c -> x.measure(c, 2, 1, 0), -1, -1, -1);
+        Check.answers("crowd", c -> x.measure(c, 0, 0, 0), 1, 1, 1, 0, 1, 0, 0, 0, 0, 0);
+        Check.answers("within 0", c -> x.measure(c, 1, 0, 0), 1, 1, 1, 0, 1, 0, 0, 0, 0, 0);
+        Check.answers("within 1", c -> x.measure(c, 1, 0, 1), 2, 3, 2, 2, 1, 1, 1, 1, 0, 1);
+        Check.answers("within 2", c -> x.measure(c, 1, 0, 2), 2, 3, 2, 2, 1, 2, 3, 2, 2, 1);
+        Check.answers("within 999", c -> x.measure(c, 1, 0, 999), 4, 4, 4, 4, 4, 4, 4, 4, 4, 4);
+        Check.answers("to dots", c -> x.measure(c, 2, 0, 0), 0, 0, 0, 1, 0, 1, 1, 1, 2, 1);
+        Check.answers("to sea", c -> x.measure(c, 3, 0, 0), 17, 10, 5, 2, 1, 16, 9, 4, 1, 0);
+        Check.answers("in line", c -> x.measure(c, 4, 0, 0), 4, 4, 4, 4, 4, 1, 1, 1, 0, 1);
+        Check.answers("to dots, without", c -> x.measure(c, 2, 1, 0), -1, -1, -1);
         x.flood(9, false);
-        answers("to sea, without", c -> x.measure(c, 3, 0, 0), -1, -1, -1);
+        Check.answers("to sea, without", c -> x.measure(c, 3, 0, 0), -1, -1, -1);
         refusesOutside("measure, cell", n -> x.measure(n, 0, 0, 0));
         refusesOutside("measure, level", n -> x.measure(0, 0, n, 0));
         Check.refuses("measure 5", MISSING, () -> x.measure(0, 5, 0, 0));
@@ -416,8 +406,8 @@ public final class PromiseTest {
 
     private static void nearestAndServed() {
         DotSpreader x = Check.map("size 5 2;zone a people 300;zone b people 0;row a 0:0-4;row b 1:3-4;sea 1:4-4;");
-        answers("nearest", c -> x.nearest(c, 0), 0, 0, 2, 2, 4, 0, 0, 2, 2, 4);
-        answers("served", c -> x.served(c, 0), 2, 0, 3, 0, 1, 0, 0, 0, 0, 0);
+        Check.answers("nearest", c -> x.nearest(c, 0), 0, 0, 2, 2, 4, 0, 0, 2, 2, 4);
+        Check.answers("served", c -> x.served(c, 0), 2, 0, 3, 0, 1, 0, 0, 0, 0, 0);
         Check.is("nearest without dots", x.nearest(0, 1), NONE);
         Check.is("served without dots", x.served(0, 1), 0);
         refusesOutside("nearest, cell", n -> x.nearest(n, 0));
@@ -428,13 +418,13 @@ public final class PromiseTest {
 
     private static void thinned() {
         DotSpreader x = full("row a 0:0-4;row a 1:2-2;");
-        answers("by 0", k -> x.thinned(0, 0, k), 0, 1, 2, 3, 4, 7, NONE);
+        Check.answers("by 0", k -> x.thinned(0, 0, k), 0, 1, 2, 3, 4, 7, NONE);
         Check.is("by 1", x.thinned(0, 1, NONE), 6);
-        answers("by 2", k -> x.thinned(0, 2, k), 0, 2, 4, NONE);
-        answers("by 4", k -> x.thinned(0, 4, k), 0, 2, 4, NONE);
-        answers("by 5", k -> x.thinned(0, 5, k), 0, 3, NONE);
+        Check.answers("by 2", k -> x.thinned(0, 2, k), 0, 2, 4, NONE);
+        Check.answers("by 4", k -> x.thinned(0, 4, k), 0, 2, 4, NONE);
+        Check.answers("by 5", k -> x.thinned(0, 5, k), 0, 3, NONE);
         Check.is("by 5: how many", x.thinned(0, 5, NONE), 2);
-        answers("by 999", k -> x.thinned(0, 999, k), 0, NONE);
+        Check.answers("by 999", k -> x.thinned(0, 999, k), 0, NONE);
         Check.is("the -2nd", x.thinned(0, 5, -2), NONE);
         Check.is("without dots", x.thinned(4, 5, NONE), 0);
         Check.refuses("by 1000", ILLEGAL, () -> x.thinned(0, 1000, 0));
@@ -445,13 +435,13 @@ public final class PromiseTest {
 
     private static void tours() {
         DotSpreader x = full("row a 0:2-2;row a 1:1-1,3-3;");
-        answers("tour", k -> x.tour(0, k), 2, 6, 8, NONE);
+        Check.answers("tour", k -> x.tour(0, k), 2, 6, 8, NONE);
         Check.is("how many", x.tour(0, NONE), 3);
         Check.is("the -2nd", x.tour(0, -2), NONE);
         Check.is("way", x.way(0), 6);
         Check.is("way without dots", x.way(4), 0);
         DotSpreader y = full("row a 0:1-1,3-3,4-4;row a 2:0-0;");
-        answers("tour", k -> y.tour(0, k), 1, 3, 4, 10, NONE);
+        Check.answers("tour", k -> y.tour(0, k), 1, 3, 4, 10, NONE);
         Check.is("way", y.way(0), 4 + 1 + 20);
         y.flood(4, true);
         Check.is("way after the sea came", y.way(0), 4 + 13);
@@ -461,24 +451,24 @@ public final class PromiseTest {
 
     private static void hulls() {
         DotSpreader x = full("row a 0:2-2;row a 1:1-3;row a 2:0-4;row a 3:1-3;row a 4:2-2;");
-        answers("a diamond", k -> x.hull(0, k), 2, 14, 22, 10, NONE);
+        Check.answers("a diamond", k -> x.hull(0, k), 2, 14, 22, 10, NONE);
         Check.is("its corners", x.hull(0, NONE), 4);
         Check.is("its area", x.area(0), 16);
         Check.is("the -2nd", x.hull(0, -2), NONE);
         DotSpreader square = full("row a 1:1-3;row a 2:1-3;row a 3:1-3;");
-        answers("a square", k -> square.hull(0, k), 6, 8, 18, 16, NONE);
+        Check.answers("a square", k -> square.hull(0, k), 6, 8, 18, 16, NONE);
         Check.is("its area", square.area(0), 8);
         DotSpreader row = full("row a 2:1-4;");
-        answers("a row", k -> row.hull(0, k), 11, 14, NONE);
+        Check.answers("a row", k -> row.hull(0, k), 11, 14, NONE);
         Check.is("no area", row.area(0), 0);
         DotSpreader slope = full("row a 0:4-4;row a 1:3-3;row a 2:2-2;row a 4:0-0;");
-        answers("a slope", k -> slope.hull(0, k), 4, 20, NONE);
+        Check.answers("a slope", k -> slope.hull(0, k), 4, 20, NONE);
         Check.is("no area", slope.area(0), 0);
         DotSpreader one = full("row a 3:3-3;");
-        answers("one", k -> one.hull(0, k), 18, NONE);
+        Check.answers("one", k -> one.hull(0, k), 18, NONE);
         Check.is("no area", one.area(0), 0);
         DotSpreader dent = full("row a 0:0-0,4-4;row a 1:2-2;row a 3:0-0;");
-        answers("a dent is left out", k -> dent.hull(0, k), 0, 4, 15, NONE);
+        Check.answers("a dent is left out", k -> dent.hull(0, k), 0, 4, 15, NONE);
         Check.is("its area", dent.area(0), 12);
         refusesOutside("hull", n -> x.hull(n, 0));
         refusesOutside("area", x::area);
@@ -496,9 +486,9 @@ public final class PromiseTest {
         Check.is("a middle without a zone, the least", y.middle(0, 0), 1);
         refusesOutsideButNone("middle, group", n -> x.middle(n, 0));
         refusesOutside("middle, level", n -> x.middle(NONE, n));
-        answers("rows", at -> x.line(false, at, 0), 5, 16);
-        answers("columns", at -> x.line(true, at, 0), 6, 8, 7);
-        answers("columns at level 2", at -> x.line(true, at, 2), 1, 3, 0);
+        Check.answers("rows", at -> x.line(false, at, 0), 5, 16);
+        Check.answers("columns", at -> x.line(true, at, 0), 6, 8, 7);
+        Check.answers("columns at level 2", at -> x.line(true, at, 2), 1, 3, 0);
         refusesOutside("row", at -> x.line(false, at, 0));
         refusesOutside("column", at -> x.line(true, at, 0));
         Check.refuses("row 2", INDEX, () -> x.line(false, 2, 0));
@@ -535,7 +525,7 @@ public final class PromiseTest {
 
     private static void fitsAndScale() {
         DotSpreader x = scaled();
-        answers("fits", x::fits, 112, 102, 56);
+        Check.answers("fits", x::fits, 112, 102, 56);
         Check.is("fits(212)", x.fits(212), 1);
         Check.is("fits(211)", x.fits(211), 2);
         Check.is("fits(104)", x.fits(104), 3);
@@ -547,7 +537,7 @@ public final class PromiseTest {
         Check.is("fits(9)", y.fits(9), NONE);
         y.flood(0, true);
         Check.is("fits without land", y.fits(0), 1);
-        answers("scale", x::scale, 4, 4, 3, 3, 2, 2, 2, 2, 2, 2, 1);
+        Check.answers("scale", x::scale, 4, 4, 3, 3, 2, 2, 2, 2, 2, 2, 1);
         Check.is("scale(20)", x.scale(20), 1);
         Check.is("scale(21)", x.scale(21), 0);
         Check.is("scale(-1)", x.scale(-1), NONE);
@@ -598,7 +588,7 @@ public final class PromiseTest {
 
     private static void counts() {
         DotSpreader x = Check.map(COAST);
-        answers("count", x::count, 5, 3, 2, 1, 3, 9, 3, 100, 5, 0, 540, NONE);
+        Check.answers("count", x::count, 5, 3, 2, 1, 3, 9, 3, 100, 5, 0, 540, NONE);
         Check.is("count(-1)", x.count(-1), NONE);
         Check.is("count(Integer.MIN_VALUE)", x.count(Integer.MIN_VALUE), NONE);
         Check.is("people of all groups", Check.map(SCALES).count(10), 212);
@@ -617,16 +607,16 @@ public final class PromiseTest {
         Check.is("ahead of it", x.crowd(1, NONE, 0), 2);
         Check.feed(x, "size 3 3;zone q people 100;row q 2:1-2;");
         Check.is("read", x.read(), 1);
-        answers("count", x::count, 3, 3, 1, 1, 0, 2, 7, 50, 3, 39, 100);
-        answers("crowd", c -> x.crowd(c, NONE, 0), 0, 0, 0, 0, 0, 0, 0, 1, 1);
-        answers("stands", x::stands, NONE, NONE, NONE, NONE, NONE, NONE, NONE, 0, 1);
-        answers("hull", k -> x.hull(0, k), 7, 8, NONE);
-        answers("tour", k -> x.tour(0, k), 7, 8, NONE);
+        Check.answers("count", x::count, 3, 3, 1, 1, 0, 2, 7, 50, 3, 39, 100);
+        Check.answers("crowd", c -> x.crowd(c, NONE, 0), 0, 0, 0, 0, 0, 0, 0, 1, 1);
+        Check.answers("stands", x::stands, NONE, NONE, NONE, NONE, NONE, NONE, NONE, 0, 1);
+        Check.answers("hull", k -> x.hull(0, k), 7, 8, NONE);
+        Check.answers("tour", k -> x.tour(0, k), 7, 8, NONE);
         Check.is("what was written stays", x.octet(4), 'a');
         Check.refuses("cell 9", INDEX, () -> x.cell(9, 0));
         Check.refuses("zone 1", INDEX, () -> x.zone(1, 0));
         Check.feed(x, "size 3 3;zone q people 100;row q 2:1-3;");
         Check.refuses("a wrong one", ILLEGAL, x::read);
-        answers("crowd as it was", c -> x.crowd(c, NONE, 0), 0, 0, 0, 0, 0, 0, 0, 1, 1);
+        Check.answers("crowd as it was", c -> x.crowd(c, NONE, 0), 0, 0, 0, 0, 0, 0, 0, 1, 1);
     }
 }
