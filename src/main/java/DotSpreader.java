@@ -384,7 +384,7 @@ public final class DotSpreader {
         }
         int low = 1;
         int high = MOST_UNIT;
-        while (low < high) {
+        for (int halvings = 0; low < high && halvings < MOST_UNIT; halvings++) {
             int middle = (low + high) / 2;
             if (tally.sumWithUnit(now.chart, middle) > n) {
                 low = middle + 1;
@@ -1693,7 +1693,7 @@ public final class DotSpreader {
             System.arraycopy(crowd.spots, 0, waiting, 0, crowd.spotCount);
             waitingCount = crowd.spotCount;
             int here = waitingCount > 0 ? waiting[0] : NONE;
-            while (here != NONE && stops < MOST_CELLS) {
+            for (int steps = 0; here != NONE && steps < MOST_CELLS; steps++) {
                 push(here);
                 int next = nextAfter(chart, here);
                 walked += next == NONE ? 0 : chart.far(here, next);

@@ -427,6 +427,8 @@ public final class BoundsTest {
             Check.is("Promise 43: k " + n, x.octet(n), NONE);
         }
         Check.is("Promise 14: k -1", x.order(0, -1), NONE);
+        Check.is("Promise 14: k -1 of the second zone", x.order(1, -1), NONE);
+        Check.is("Promise 14: behind the first zone's last", x.order(0, 5), NONE);
         Check.is("Promise 43: k -1", x.octet(-1), NONE);
     }
 

@@ -36,6 +36,8 @@ public final class FaultListTest {
         namesTold();
         ninthZone();
         secondWords();
+        wordsAlike();
+        severalFaults();
         othersFirstCell();
         othersLaterCell();
         ownCells();
@@ -418,6 +420,53 @@ public final class FaultListTest {
         wrong("Term THE FAULT: a second size at that word", SIZE + "^size");
         wrong("Term THE FAULT: groups behind a zone at that word", SIZE + "zone a people 1;^groups 9;");
         wrong("Term THE FAULT: groups behind a zone at that word", SIZE + "zone a people 1;^groups");
+    }
+
+    private static void wordsAlike() {
+        String what = "Term THE MAP: a word with one other letter is another";
+        String[] lines = {"^size 2 2;", SIZE + "^groups 1;", SIZE + "^zone a people 1;", SIZE + "zone a ^people 1;",
+            TWO + "^row a 0:1-1;", TWO + "^sea 0:0-0;"};
+        for (int k = 0; k < WORDS.length; k++) {
+            int at = lines[k].indexOf('^') + 1;
+            for (int letter = 0; letter < WORDS[k].length(); letter++) {
+                StringBuilder text = new StringBuilder(lines[k]);
+                text.setCharAt(at + letter, 'x');
+                wrong(what, text.toString());
+            }
+        }
+        right("Term NAMES: names with one other letter are others", SIZE + "zone abc people 1;zone xbc people 1;"
+                + "zone axc people 1;zone abx people 1;row xbc 0:0-0;row axc 0:1-1;row abx 0:2-2;row abc 0:3-3;");
+    }
+
+    private static void severalFaults() {
+        String what = "Term THE FAULT: of several the first";
+        String behind = ";x";
+        wrong(what, "^x 4 3" + behind);
+        wrong(what, "^1" + behind);
+        wrong(what, "^4 3" + behind);
+        wrong(what, "size ^99 99" + behind);
+        wrong(what, "size 4^,3" + behind);
+        wrong(what, SIZE + "groups ^9" + behind);
+        wrong(what, SIZE + "groups 1;^groups 9" + behind);
+        wrong(what, SIZE + "zone ^9 people 999999" + behind);
+        wrong(what, SIZE + "zone ^people people 1" + behind);
+        wrong(what, SIZE + "zone a ^9" + behind);
+        wrong(what, SIZE + "zone a people ^999999,999999" + behind);
+        wrong(what, SIZE + "groups 2;zone a people 1^" + behind);
+        wrong(what, SIZE + "groups 2;zone a people 1^:2" + behind);
+        wrong(what, SIZE + "groups 2;zone a people ^999999" + behind);
+        wrong(what, TWO + "row ^1:0-0" + behind);
+        wrong(what, TWO + "row ^x 9:9-9" + behind);
+        wrong(what, TWO + "row b ^9:9-9" + behind);
+        wrong(what, TWO + "row b 1 ^0-9" + behind);
+        wrong(what, TWO + "row b 1:^9-9" + behind);
+        wrong(what, TWO + "row b 1:0 ^9" + behind);
+        wrong(what, TWO + "row b 1:0-^9,9-9" + behind);
+        wrong(what, TWO + "row b 0:^0-3,9-9" + behind);
+        wrong(what, TWO + "sea ^9:9-9" + behind);
+        wrong(what, TWO + "sea 1:0-0,^9-9" + behind);
+        wrong(what, EIGHT + "^zone a people 999999" + behind);
+        wrong(what, TWO + "^x;" + TWO);
     }
 
     private static void othersFirstCell() {

@@ -14,6 +14,7 @@ public final class FullTest {
         greatestMapsOrder();
         greatestMapsPaths();
         greatestMapsMeasures();
+        greatestMapTried();
         mostParts();
         mostRuns();
         eightZones();
@@ -172,6 +173,18 @@ public final class FullTest {
         Check.is("Promise 31: served by the last", x.served(383, 0), 1);
     }
 
+    // b has people, but no land until it gets some.
+    private static void greatestMapTried() {
+        DotSpreader x = Check.map(wholeMap("groups 3;zone a people 0,0,0;zone b people 5,5,5;"));
+        x.unit(1);
+        Check.is("Promise 19: no dots without land", x.all(NONE, 0), 0);
+        Check.is("Promise 25: one cell comes to b, and its five of each group", x.tries(0, 1, 15, 23, 23, 0), 15);
+        Check.is("Promise 25: a row comes to b", x.tries(0, 1, 15, 0, 23, 0), 15);
+        Check.is("Promise 25: nothing stays", x.all(NONE, 0), 0);
+        Check.is("Promise 24: one cell", x.move(0, 1, 15, 23, 23), 1);
+        Check.answers("Promise 21: all stand on it, of group", g -> x.crowd(383, g, 0), 5, 5, 5);
+    }
+
     // As on a board every other cell is sea: all 192 others are alone, with sea at every side that is not at the edge.
     private static void mostParts() {
         DotSpreader x = whole();
@@ -212,7 +225,8 @@ public final class FullTest {
         Check.is("Promise 44: bytes", x.count(9), 1398);
         Check.is("Promise 43: the last", x.octet(1397), ';');
         Check.is("Promise 43: behind the last", x.octet(1398), NONE);
-        Check.is("Promise 43: the last run's end", x.octet(1396), '3');
+        Check.is("Term WRITTEN: the last line", Check.written(x).substring(1398 - 88),
+                "row abcdef 15: 1-1, 3-3, 5-5, 7-7, 9-9, 11-11, 13-13, 15-15, 17-17, 19-19, 21-21, 23-23;");
     }
 
     // ---- 8 ZONES ----

@@ -22,6 +22,7 @@ public final class PromiseTest {
     public static void main(String[] args) {
         newObject();
         cellsAndZones();
+        sides();
         peopleAndFlood();
         unitAndFactor();
         orders();
@@ -121,6 +122,31 @@ public final class PromiseTest {
         Check.is("letter -1", x.name(1, -1), NONE);
         Check.is("letter far behind", x.name(0, Integer.MAX_VALUE), NONE);
         refusesOutside("name", z -> x.name(z, 0));
+    }
+
+    private static void sides() {
+        DotSpreader x = Check.map("size 3 3;zone a people 1;zone b people 1;row a 0:0-2;row a 1:0-0,2-2;row a 2:0-2;"
+                + "row b 1:1-1;");
+        Check.is("border on four sides", x.zone(1, 4), 4);
+        Check.is("border of those round it", x.zone(0, 4), 4);
+        for (int cell : new int[] {1, 3, 5, 7}) {
+            x.flood(cell, true);
+            Check.is("shore on the side of " + cell, x.zone(1, 3), 1);
+            Check.is("border on the others", x.zone(1, 4), 3);
+            Check.is("shore of those round it", x.zone(0, 3), 2);
+            x.flood(cell, false);
+        }
+        x.flood(0, true);
+        Check.is("a corner is no side", x.zone(1, 3), 0);
+        DotSpreader corner = Check.map("size 2 2;zone a people 1;zone b people 1;row a 0:0-0;row b 0:1-1;row b 1:0-0;");
+        Check.is("border of cell 0", corner.zone(0, 4), 2);
+        Check.is("border with cell 0", corner.zone(1, 4), 2);
+        corner.flood(1, true);
+        corner.flood(2, true);
+        Check.is("shore of cell 0", corner.zone(0, 3), 2);
+        DotSpreader alone = Check.map("size 2 2;zone a people 1;row a 0:0-0;");
+        Check.is("the edge and cells of no zone are no shore", alone.zone(0, 3), 0);
+        Check.is("nor a border", alone.zone(0, 4), 0);
     }
 
     private static void peopleAndFlood() {
@@ -264,6 +290,8 @@ public final class PromiseTest {
         Check.is("apart of one", y.apart(0), NONE);
         y.people(0, 0, 200);
         Check.is("apart of two", y.apart(0), 4);
+        Check.is("the nearest two are the last two", full("row a 0:1-1;row a 1:0-0;row a 2:0-0;").apart(0), 1);
+        Check.is("the nearest two are across", full("row a 0:0-0,4-4;row a 1:3-3;").apart(0), 2);
     }
 
     private static void moves() {
@@ -355,6 +383,18 @@ public final class PromiseTest {
         Check.refuses("part 15", INDEX, () -> x.part(15));
         DotSpreader y = Check.map("size 3 3;zone a people 1;row a 0:0-0,2-2;row a 1:1-1;row a 2:0-2;");
         Check.answers("corners do not hang together", y::part, 0, NONE, 1, NONE, 2, NONE, 2, 2, 2);
+        DotSpreader up = Check.map("size 3 2;zone a people 1;row a 0:0-0,2-2;row a 1:0-2;");
+        Check.answers("down, along and up", up::part, 0, NONE, 0, 0, 0, 0);
+        DotSpreader back = Check.map("size 3 3;zone a people 1;row a 0:0-2;row a 1:2-2;row a 2:0-2;");
+        Check.answers("along, down and back", back::part, 0, 0, 0, NONE, NONE, 0, 0, 0, 0);
+        DotSpreader ends = Check.map("size 3 2;zone a people 1;zone b people 1;row a 0:2-2;row a 1:0-0;");
+        Check.answers("a row's end and the next one's start are not side by side", ends::part, NONE, NONE, 0, 1);
+        Check.is("parts of them", ends.zone(0, 2), 2);
+        Check.is("runs of them", ends.zone(0, 5), 2);
+        ends.move(0, 1, 1, 0, 0);
+        Check.is("no border between them", ends.zone(0, 4) + ends.zone(1, 4), 0);
+        ends.flood(3, true);
+        Check.is("no shore between them", ends.zone(0, 3), 0);
     }
 
     private static void measures() {
@@ -470,8 +510,27 @@ public final class PromiseTest {
         DotSpreader dent = full("row a 0:0-0,4-4;row a 1:2-2;row a 3:0-0;");
         Check.answers("a dent is left out", k -> dent.hull(0, k), 0, 4, 15, NONE);
         Check.is("its area", dent.area(0), 12);
+        leastHulls();
         refusesOutside("hull", n -> x.hull(n, 0));
         refusesOutside("area", x::area);
+    }
+
+    // Three of the four cells of a square.
+    private static void leastHulls() {
+        DotSpreader noLast = full("row a 0:0-1;row a 1:0-0;");
+        Check.answers("without the last", k -> noLast.hull(0, k), 0, 1, 5, NONE);
+        Check.is("half a cell", noLast.area(0), 1);
+        DotSpreader noThird = full("row a 0:0-1;row a 1:1-1;");
+        Check.answers("without the third", k -> noThird.hull(0, k), 0, 1, 6, NONE);
+        DotSpreader noSecond = full("row a 0:0-0;row a 1:0-1;");
+        Check.answers("without the second", k -> noSecond.hull(0, k), 0, 6, 5, NONE);
+        DotSpreader noFirst = full("row a 0:1-1;row a 1:0-1;");
+        Check.answers("without the first", k -> noFirst.hull(0, k), 1, 6, 5, NONE);
+        Check.is("half a cell", noFirst.area(0), 1);
+        DotSpreader flat = full("row a 0:0-0;row a 1:1-1;row a 2:3-3;");
+        Check.answers("a corner that is hardly one", k -> flat.hull(0, k), 0, 13, 6, NONE);
+        DotSpreader column = full("row a 0:2-2;row a 1:2-2;row a 2:2-2;row a 4:2-2;");
+        Check.answers("a column", k -> column.hull(0, k), 2, 22, NONE);
     }
 
     private static void middlesAndLines() {
