@@ -21,6 +21,7 @@ public final class ChangeTest {
         inTurn();
         areaFirst();
         levelsInTurn();
+        fewBehindMany();
         Check.done("ChangeTest");
     }
 
@@ -196,5 +197,22 @@ public final class ChangeTest {
             Check.answers("Promise 22: apart at level", x::apart, 1, 1, 1, NONE, NONE);
             Check.answers("Promise 32: kept at level", l -> x.thinned(l, 1, NONE), 3, 3, 2, 1, 0);
         }
+    }
+
+    // Nine cells with dots, then the middle one alone, then it and the first, then none.
+    private static void fewBehindMany() {
+        DotSpreader x = Check.map("size 3 3;zone a people 900;row a 0:0-2;row a 1:0-2;row a 2:0-2;");
+        shape("Promise 9: nine", 0, x, 8, 4, 8);
+        x.people(0, 0, 100);
+        cells("Promise 9: one alone behind nine", 0, x, 4);
+        shape("Promise 9: one alone behind nine", 0, x, 0, 1, 0);
+        Check.is("Promise 22: one alone behind nine", x.apart(0), NONE);
+        x.people(0, 0, 200);
+        cells("Promise 9: two behind nine", 0, x, 0, 4);
+        shape("Promise 9: two behind nine", 0, x, 2, 2, 0);
+        x.people(0, 0, 99);
+        cells("Promise 9: none behind nine", 0, x);
+        shape("Promise 9: none behind nine", 0, x, 0, 0, 0);
+        Check.is("Promise 37: none behind nine", x.middle(NONE, 0), NONE);
     }
 }

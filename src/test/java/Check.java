@@ -115,9 +115,16 @@ final class Check {
     }
 
     static String written(DotSpreader x) {
+        return written(x, 0);
+    }
+
+    /** What was WRITTEN from a byte on: a part of it, where all would be more calls than an object is for. */
+    static String written(DotSpreader x, int from) {
         StringBuilder text = new StringBuilder();
-        for (int k = 0; x.octet(k) != DotSpreader.NONE; k++) {
-            text.append((char) x.octet(k));
+        int sign = x.octet(from);
+        while (sign != DotSpreader.NONE) {
+            text.append((char) sign);
+            sign = x.octet(from + text.length());
         }
         return text.toString();
     }

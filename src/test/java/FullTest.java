@@ -225,7 +225,7 @@ public final class FullTest {
         Check.is("Promise 44: bytes", x.count(9), 1398);
         Check.is("Promise 43: the last", x.octet(1397), ';');
         Check.is("Promise 43: behind the last", x.octet(1398), NONE);
-        Check.is("Term WRITTEN: the last line", Check.written(x).substring(1398 - 88),
+        Check.is("Term WRITTEN: the last line", Check.written(x, 1398 - 88),
                 "row abcdef 15: 1-1, 3-3, 5-5, 7-7, 9-9, 11-11, 13-13, 15-15, 17-17, 19-19, 21-21, 23-23;");
     }
 
