@@ -1,7 +1,12 @@
 import com.sun.source.tree.AnnotationTree;
 import com.sun.source.tree.AssertTree;
+import com.sun.source.tree.BinaryTree;
 import com.sun.source.tree.ClassTree;
 import com.sun.source.tree.CompilationUnitTree;
+import com.sun.source.tree.DoWhileLoopTree;
+import com.sun.source.tree.EnhancedForLoopTree;
+import com.sun.source.tree.ExpressionTree;
+import com.sun.source.tree.ForLoopTree;
 import com.sun.source.tree.ImportTree;
 import com.sun.source.tree.InstanceOfTree;
 import com.sun.source.tree.LambdaExpressionTree;
@@ -10,12 +15,14 @@ import com.sun.source.tree.MethodInvocationTree;
 import com.sun.source.tree.MethodTree;
 import com.sun.source.tree.NewArrayTree;
 import com.sun.source.tree.NewClassTree;
+import com.sun.source.tree.ParenthesizedTree;
 import com.sun.source.tree.SynchronizedTree;
 import com.sun.source.tree.ThrowTree;
 import com.sun.source.tree.Tree;
 import com.sun.source.tree.TryTree;
 import com.sun.source.tree.TypeCastTree;
 import com.sun.source.tree.VariableTree;
+import com.sun.source.tree.WhileLoopTree;
 import com.sun.source.util.JavacTask;
 import com.sun.source.util.TreePath;
 import com.sun.source.util.TreePathScanner;
@@ -44,6 +51,9 @@ public final class LanguageTest extends TreePathScanner<Void, Void> {
             "boolean[]", "String");
     private static final Set<String> THROWN = Set.of("IllegalArgumentException", "IndexOutOfBoundsException",
             "NoSuchElementException");
+
+    private static final Set<Tree.Kind> BOUNDS = Set.of(Tree.Kind.LESS_THAN, Tree.Kind.LESS_THAN_EQUAL,
+            Tree.Kind.GREATER_THAN, Tree.Kind.GREATER_THAN_EQUAL);
 
     private final Trees trees;
     private final CompilationUnitTree unit;
@@ -206,7 +216,54 @@ public final class LanguageTest extends TreePathScanner<Void, Void> {
         return super.visitTypeCast(tree, nothing);
     }
 
+    // ---- loops ----
+
+    /** A counter is held against a bound: a comparison that must be so for the loop to go on. */
+    private static boolean hasBound(ExpressionTree condition) {
+        if (condition instanceof ParenthesizedTree inside) {
+            return hasBound(inside.getExpression());
+        }
+        if (condition instanceof BinaryTree both) {
+            boolean and = both.getKind() == Tree.Kind.CONDITIONAL_AND && (hasBound(both.getLeftOperand())
+                    || hasBound(both.getRightOperand()));
+            return and || BOUNDS.contains(both.getKind());
+        }
+        return false;
+    }
+
+    @Override
+    public Void visitForLoop(ForLoopTree tree, Void nothing) {
+        rule(9, "a bound of for (" + tree.getCondition() + ")", hasBound(tree.getCondition()) && tree.getUpdate().size() == 1);
+        return super.visitForLoop(tree, nothing);
+    }
+
+    @Override
+    public Void visitWhileLoop(WhileLoopTree tree, Void nothing) {
+        rule(9, "a bound of while " + tree.getCondition(), hasBound(tree.getCondition()));
+        return super.visitWhileLoop(tree, nothing);
+    }
+
+    @Override
+    public Void visitDoWhileLoop(DoWhileLoopTree tree, Void nothing) {
+        rule(9, "a bound of do while " + tree.getCondition(), hasBound(tree.getCondition()));
+        return super.visitDoWhileLoop(tree, nothing);
+    }
+
+    @Override
+    public Void visitEnhancedForLoop(EnhancedForLoopTree tree, Void nothing) {
+        rule(9, "no for over something, as none is needed", false);
+        return super.visitEnhancedForLoop(tree, nothing);
+    }
+
     // ---- what must not stand there ----
+
+    @Override
+    public Void visitBinary(BinaryTree tree, Void nothing) {
+        boolean text = tree.getLeftOperand().getKind() == Tree.Kind.STRING_LITERAL
+                || tree.getRightOperand().getKind() == Tree.Kind.STRING_LITERAL;
+        rule(10, "no text joined or compared by " + tree.getKind(), !text);
+        return super.visitBinary(tree, nothing);
+    }
 
     @Override
     public Void visitTry(TryTree tree, Void nothing) {
